@@ -1378,7 +1378,7 @@ public final class CoinLoops {
             }
         }
 
-        /** Bits of the STATES that are IN sets that are never left, nor ENDED. */
+        /** Bits of the STATES in those sets that are never left, nor ENDED. */
         private void findStaying() {
             staying = 0;
             for (int state = 0; state < rounds.states; state++) {

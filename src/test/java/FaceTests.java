@@ -87,6 +87,7 @@ public final class FaceTests {
             must(fields <= 20, c + " has " + fields + " fields");
             for (Method m : c.getDeclaredMethods()) {
                 must(m.getParameterCount() <= 7, m + " has too many parameters");
+                must(Arrays.stream(FACE).noneMatch(f -> f.contains(" " + m.getName() + "(")), m + " bears a public name");
             }
         }
     }

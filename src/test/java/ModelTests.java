@@ -1069,6 +1069,8 @@ public final class ModelTests {
         final Random r;
         int statements, picks;
         boolean tight;
+        /** Numbers fall alone: loops that end, so that straight guesses have corners. */
+        boolean down;
         double wide;
 
         Maker(Random r) {
@@ -1102,10 +1104,10 @@ public final class ModelTests {
 
         /** A sum that moves a number by little: most loops walk. */
         String move(String v) {
-            if (odds(0.3)) {
+            if (!down && odds(0.3)) {
                 return sum();
             }
-            return v + gap() + (odds(0.6) ? "-" : "+") + gap() + (1 + r.nextInt(2));
+            return v + gap() + (down || odds(0.6) ? "-" : "+") + gap() + (1 + r.nextInt(2));
         }
 
         String one() {
@@ -1121,9 +1123,9 @@ public final class ModelTests {
         }
 
         String whileCond() {
-            switch (r.nextInt(6)) {
+            switch (r.nextInt(down ? 2 : 6)) {
                 case 0: return "x" + gap() + ">" + gap() + "0";
-                case 1: return "x + y > 0";
+                case 1: return "x + y > 0 - " + r.nextInt(2);
                 case 2: return "0=0";
                 case 3: return "x < " + r.nextInt(10);
                 case 4: return "x>0 or y>0";
@@ -1183,6 +1185,7 @@ public final class ModelTests {
             statements = 0;
             picks = 0;
             tight = odds(0.5);
+            down = odds(0.3);
             wide = odds(0.5) ? 0.6 : 0;
             int nx = r.nextInt(4) == 0 ? r.nextInt(10) : r.nextInt(4);
             StringBuilder b = new StringBuilder(gap()).append("x ").append(nx).append(gap()).append(";");

@@ -38,6 +38,8 @@ public final class PromiseTests {
         tooManyPlans();
         semantics();
         deepest();
+        longest();
+        extremes();
         System.out.println(wrong == 0 ? "all promises hold" : wrong + " answers are not as due");
         if (wrong != 0) {
             System.exit(1);
@@ -529,6 +531,11 @@ public final class PromiseTests {
         due("by whatever is picked", withLoop("x 1;while x=0{pick{x=1}{coin{coin{x=1}{}}{}}}").half(0), 3);
         c = withLoop("x 9;while x>0{x=x-1}");
         due("nine", c.half(9), 9);
+        // five times odds of a quarter take 19; one or two rounds ahead of it
+        c = withLoop("x 7;while x<7{if x<2{x=x+1}{coin{coin{x=x+1}{}}{}}}");
+        due("19", c.half(2), 19);
+        due("20", c.half(1), 20);
+        due("21 are not so few", c.half(0), -1);
         c = withLoop("x 9;while x>0{coin{x=x-1}{coin{x=9}{}}}");
         due("not so few", c.half(9), -1);
         due("none refused", c.status(1), 0);
@@ -889,5 +896,78 @@ public final class PromiseTests {
         c = withLoop("x 9;while x<9{" + "pay 20;".repeat(18) + "coin{coin{x=x+1}{x=x-1}}{x=0}}");
         due("a long fraction", c.paid(0, true, 0) > 1000000L, true);
         bestIs(withLoop("x 9;while x<9{" + "pay 20;".repeat(20) + "x=x+1}"), 0, 3600, 1, -400, 1, 0, 1, 3600, 1);
+    }
+
+    /** TAPES that are full: as many parts, and as many conditions, as there can be. */
+    private static void longest() {
+        promise = 6;
+        CoinLoops c = withLoop("x 1;while 0=0{}");
+        due("500 parts", tape(c, "1+".repeat(249) + "1x").guess(), 1);
+        due("their sum at 0", c.guessed(0, 0), 249);
+        due("their sum at 1", c.guessed(1, 0), 250);
+        due("500 parts that go wrong", tape(c, "1+".repeat(250)).fault(1), 500);
+        due("500 signs", tape(c, ";".repeat(500)).fault(0), 0);
+        due("500 digits", tape(c, "1".repeat(500)).fault(1), 0);
+        due("500 letters", tape(c, "x".repeat(500)).fault(1), 0);
+        for (int i = 0; i < 4; i++) {
+            due("many conditions", tape(c, "1<1or".repeat(97) + " x=1?7;3").guess(), 2);
+            due("the last of them", c.guessed(1, 0), 7);
+            due("none of them", c.guessed(0, 0), 3);
+        }
+        promise = 5;
+        c = withLoop("x 1;while " + "1<1or".repeat(90) + " x=1{pay 1;if 1<1or x=1{out}{}}");
+        due("IN", c.rule(3), 2);
+        due("out", choice(c, 1, 0, 2), 4);
+    }
+
+    /** No number, however far away, may break a call. */
+    private static void extremes() {
+        promise = 25;
+        int[] far = {Integer.MIN_VALUE, Integer.MIN_VALUE + 7, -1000, 1000, Integer.MAX_VALUE / 8 + 1, Integer.MAX_VALUE};
+        CoinLoops bare = new CoinLoops();
+        CoinLoops full = withGuess(withLoop("x 2;while x>0{pick{pay 2;x=x-1}{pay 1;coin{x=x-1}{}}}"), "2x");
+        for (int n : far) {
+            refusedFar(bare, n);
+            refusedFar(full, n);
+        }
+        due("no LOOP", bare.status(0), far.length * 30);
+        due("no such ones", full.status(1), far.length * 30);
+    }
+
+    private static void refusedFar(CoinLoops c, int n) {
+        due("end", c.end(n), false);
+        due("fault", c.fault(n), -2);
+        due("rule", c.rule(n), -2);
+        due("choices", c.choices(n), -1);
+        due("choice by state", choice(c, n, 0, 0), THROWS);
+        due("choice by choice", choice(c, 1, n, 0), THROWS);
+        due("choice by what", choice(c, 1, 0, n), THROWS);
+        due("leads by state", c.leads(n, 0, 0), -1);
+        due("leads by choice", c.leads(1, n, 0), -1);
+        due("leads by to", c.leads(1, 0, n), -1);
+        due("paid by state", c.paid(n, true, 0), -1);
+        due("paid by part", c.paid(1, true, n), -1);
+        due("ends by state", c.ends(n, true, 0), -1);
+        due("plan by state", c.plan(n, true, 1), -1);
+        due("plan by of", c.plan(1, true, n), -1);
+        due("within by state", c.within(n, 1, true, 0), -1);
+        due("within by n", c.within(1, n, true, 0), -1);
+        due("within by what", c.within(1, 1, true, n), -1);
+        due("half", c.half(n), -1);
+        due("guessed by state", c.guessed(n, 0), NOT_TOLD);
+        due("ahead by state", c.ahead(n, 0, 0), NOT_TOLD);
+        due("ahead by choice", c.ahead(1, n, 0), NOT_TOLD);
+        due("refutes", c.refutes(n), -2);
+        due("best by state", c.best(n, 0), NOT_TOLD);
+        due("best by what", c.best(1, n), NOT_TOLD);
+        due("run by state", c.run(n, 0, 0, 0, 0), -1);
+        due("run by rounds", c.run(1, 0, 0, n, 0), -1);
+        due("bind by pick", c.bind(n, 0), -1);
+        due("bind by number", c.bind(0, n), -1);
+        due("price by k", c.price(n, 0), -1);
+        due("price by n", c.price(0, n), -1);
+        due("most", c.most(n), -1);
+        due("status", c.status(n), -1);
+        due("count", c.count(n), -1);
     }
 }
