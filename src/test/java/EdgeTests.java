@@ -60,6 +60,7 @@ public final class EdgeTests {
         loopAnew();
         guessWithAFault();
         guessWithoutALoop();
+        oneTextAfterAnother();
         longestTexts();
     }
 
@@ -389,6 +390,17 @@ public final class EdgeTests {
         bodyText("^pa y 2");
         bodyText("x=^xx");
         bodyText("x=x ^x");
+        loopText("^xz 2;while x>0{}");
+        loopText("^xa 2;while x>0{}");
+        loopText("^zx 2;while x>0{}");
+        sentence = "ONE: SUM < SUM | SUM = SUM | SUM > SUM";
+        loopText("x 2;while x^{}");
+        loopText("x 2;while x>0 and y^{}");
+        loopText("x 2;while x>0 or y ^or x>1{}");
+        loopText("x 2;while x>0^>1{}");
+        bodyText("if x^{}{}");
+        guessText("x ^?3;4");
+        guessText("x>0 and y^?3;4");
         sentence = "Blanks (32) may stand ahead of and behind words, NUMBERS, signs";
         loopText("   x   2   ;   y   1   ;   while   2   x   +   y   >   0   or   x   =   1   {   pay   3   ;   "
                 + "if   x   <   y   {   }   {   out   }   }   ");
@@ -717,6 +729,36 @@ public final class EdgeTests {
         due("no GUESS", c.status(0), 2);
     }
 
+    /** Nothing of a TEXT may be left in those that come after it on the same object. */
+    private static void oneTextAfterAnother() {
+        sentence = "loop: The TAPE is the LOOP (nothing of those ahead of it)";
+        CoinLoops c = new CoinLoops();
+        String more = "x=7 or ".repeat(12);
+        for (int i = 0; i < 12; i++) {
+            due("all are IN", tape(c, "x 4;y 1;while " + more + "0=0{pay 1;coin{pay 2}{pick{}{out}};coin{}{}}").loop(), 10);
+            row("rule", c::rule, 4, 1, 10, 1023, 6, 1, -2, 0, 0);
+            due("pays", c.most(7), 2);
+            due("coins", c.most(8), 2);
+            due("a FAULT between them", tape(c, "x 1;y 4;while 0=0{pay 1;coin{pick{}{}}").fault(0), 38);
+            due("none is IN", tape(c, "x 3;while " + more + "0=1{}").loop(), 4);
+            row("rule", c::rule, 3, 0, 4, 0, 0, 0, 1, 0, 0);
+            due("pays", c.most(7), 0);
+            due("coins", c.most(8), 0);
+        }
+        sentence = "guess: The TAPE is the GUESS (nothing of those ahead of it)";
+        c = withLoop("x 1;while 0=0{}");
+        for (int i = 0; i < 8; i++) {
+            due("three PIECES", tape(c, more.repeat(2) + "x=1?5 by 7;" + more.repeat(2) + "x=0?6 by 5;9").guess(), 3);
+            due("at 0", c.guessed(0, 0), 6);
+            due("by", c.guessed(0, 1), 5);
+            due("at 1", c.guessed(1, 0), 5);
+            due("one PIECE", tape(c, "x+3").guess(), 1);
+            due("at 0", c.guessed(0, 0), 3);
+            due("by", c.guessed(0, 1), 1);
+            due("a FAULT between them", tape(c, "x=0?1;y=0?2;").fault(1), 12);
+        }
+    }
+
     private static void longestTexts() {
         sentence = "feed: NONE: more than 500 (500 are a TEXT)";
         String head = "x 9;while x<9{x=x";
@@ -755,6 +797,10 @@ public final class EdgeTests {
         due("just so much is not more", withLoop("x 4;while x>2{}").rule(3), 0b11000);
         due("just so much is not less", withLoop("x 4;while x<2{}").rule(3), 0b00011);
         due("2x is", withLoop("x 4;while 2x=4{}").rule(3), 0b00100);
+        due("y on the right", withLoop("x 2;y 2;while x=y{}").rule(3), 0b100010001);
+        due("x on the right", withLoop("x 2;y 2;while 2-y>x{}").rule(3), 0b000001011);
+        due("or behind and", withLoop("x 4;while x>0 and x<2 or x=4{}").rule(3), 0b10010);
+        due("and behind or", withLoop("x 4;while x=0 or x>2 and x<4{}").rule(3), 0b01001);
     }
 
     private static void held() {
@@ -882,6 +928,25 @@ public final class EdgeTests {
         row("LEAST goes by", s -> c.plan(0, false, s), 1, 1, 1, 1, 1, 1, -1);
         row("MOST goes by", s -> c.plan(0, true, s), 0, 0, 0, 0, 0, 0, -1);
         row("from 4", s -> c.plan(4, false, s), 0, 0, 0, 0, 1, 1, -1);
+        CoinLoops last = withLoop("x 6;while x<6{pick{x=x+1}{pay 1;x=x+1}}");
+        due("LEAST by the first", last.paid(0, false, 0), 0);
+        due("MOST by the last", last.paid(0, true, 0), 6);
+        row("LEAST goes by", s -> last.plan(0, false, s), 0, 0, 0, 0, 0, 0, -1);
+        row("MOST goes by", s -> last.plan(0, true, s), 1, 1, 1, 1, 1, 1, -1);
+        sentence = "LEAST, MOST: ODDS of all PLANS (64 are not TOO MANY)";
+        CoinLoops odds = withLoop("x 6;while x<6{pick{x=x+1}{coin{x=x+1}{}}}");
+        row("ENDS", s -> odds.ends(s, false, 0), 1, 1, 1, 1, 1, 1, 1);
+        CoinLoops traps = withLoop("x 6;while x<6{pick{x=x+1}{}}");
+        row("LEAST", s -> traps.ends(s, false, 0), 0, 0, 0, 0, 0, 0, 1);
+        row("MOST", s -> traps.ends(s, true, 0), 1, 1, 1, 1, 1, 1, 1);
+        CoinLoops other = withLoop("x 6;while x<6{pick{}{x=x+1}}");
+        row("LEAST", s -> other.ends(s, false, 0), 0, 0, 0, 0, 0, 0, 1);
+        row("MOST", s -> other.ends(s, true, 0), 1, 1, 1, 1, 1, 1, 1);
+        // by one PLAN 1 is never left, by the other it ENDS: more equations than before
+        CoinLoops grown = withLoop("x 1;while 0=0{if x=0{pay 1;coin{x=1}{out}}{pick{}{out}}}");
+        fraction("LEAST", part -> grown.ends(0, false, part), 1, 2);
+        fraction("MOST", part -> grown.ends(0, true, part), 1, 1);
+        fraction("PAID", part -> grown.paid(0, true, part), 1, 1);
         sentence = "LEAST, MOST: of each STATE for itself";
         CoinLoops d = withLoop("x 1;while 0=0{pick{if x=0{pay 1}{pay 3}}{if x=0{pay 3}{pay 1}};out}");
         row("LEAST", s -> d.paid(s, false, 0), 1, 1);
@@ -920,6 +985,14 @@ public final class EdgeTests {
         fraction("ODDS of none", part -> d.ends(2, true, part), 0, 1);
         CoinLoops e = withLoop("x 2;while x<2{pay 1;coin{x=1-x}{coin{}{out}}}");
         fraction("ENDED by a quarter", part -> e.paid(0, true, part), 4, 1);
+        CoinLoops f = withLoop("x 2;while 0=0{if x=0{pay 3;coin{x=1}{x=2}}{if x=1{x=2}{x=1}}}");
+        fraction("left for those that are never left", part -> f.paid(0, true, part), 3, 1);
+        fraction("those that are never left", part -> f.paid(2, true, part), 0, 1);
+        fraction("it never ENDS", part -> f.ends(0, true, part), 0, 1);
+        CoinLoops g = withLoop("x 2;while 0=0{if x<2{pay 1;x=x+1}{}}");
+        row("one after another", s -> g.paid(s, false, 0), 2, 1, 0);
+        CoinLoops h = withLoop("x 2;while 0=0{if x=0{coin{x=1}{x=2}}{if x=1{pay 1}{}}}");
+        row("two traps, one that pays", s -> h.paid(s, true, 0), -2, -2, 0);
         sentence = "Of a STATE that is OUT: 0 PAID, ODDS 1";
         fraction("0 PAID", part -> e.paid(2, false, part), 0, 1);
         fraction("0 PAID", part -> e.paid(2, true, part), 0, 1);
@@ -992,6 +1065,17 @@ public final class EdgeTests {
         CoinLoops d = withLoop("x 1;while x=0{pick{pay 1}{pay 3;x=1}}");
         row("MOST: one goes on till the last", n -> d.within(0, n, true, 1), 0, 3 * 4, 4 * 16, 5 * 64);
         row("LEAST", n -> d.within(0, n, false, 1), 0, 4, 2 * 16, 3 * 64, 3 * 256);
+        row("odds, MOST", n -> d.within(0, n, true, 0), 0, 4, 16, 64);
+        row("odds, LEAST", n -> d.within(0, n, false, 0), 0, 0, 0, 0);
+        sentence = "WITHIN: picks that are BOUND, pays that are others";
+        d.bind(0, 1);
+        row("odds, LEAST", n -> d.within(0, n, false, 0), 0, 4, 16, 64);
+        row("PAID, MOST", n -> d.within(0, n, true, 1), 0, 3 * 4, 3 * 16, 3 * 64);
+        d.price(1, 7);
+        row("PAID, LEAST", n -> d.within(0, n, false, 1), 0, 7 * 4, 7 * 16, 7 * 64);
+        d.bind(0, 0);
+        row("odds, MOST", n -> d.within(0, n, true, 0), 0, 0, 0, 0);
+        row("PAID, MOST", n -> d.within(0, n, true, 1), 0, 4, 2 * 16, 3 * 64);
     }
 
     private static void withinTheMost() {
@@ -1200,6 +1284,11 @@ public final class EdgeTests {
         bestIs(c, 0, 7, 1, 0, 1, 16, 1, 7, 1);
         bestIs(c, 4, 7, 1, 0, 1, 16, 1, 7, 1);
         bestIs(c, 5, 7, 1, 4, 1, 0, 1, 7, 1);
+        CoinLoops d = withLoop("x 4;y 1;while 0=0{pick{}{pay 1};pick{}{pay 2};pick{}{if x+y=5{pay 20}{pay 4}};out}");
+        bestIs(d, 9, 23, 1, 0, 1, 16, 1, 7, 1);
+        bestIs(d, 5, 7, 1, 4, 1, 0, 1, 7, 1);
+        due("the dearest is left out", d.bind(2, 0), -2);
+        bestIs(d, 9, 3, 1, 0, 1, 0, 1, 3, 1);
     }
 
     // ---------------------------------------------------------------- RUNS
@@ -1226,6 +1315,11 @@ public final class EdgeTests {
         row("201 ROUNDS", what -> d.run(9, 0, 0, 201, what), -1, -1, -1, -1, -1);
         row("-1 ROUNDS", what -> d.run(9, 0, 0, -1, what), -1, -1, -1, -1, -1);
         due("STATUS 1", d.status(1), 10);
+        sentence = "run: what a RUN draws is not kept";
+        CoinLoops drawn = withLoop("x 3;while x=0{pay 1;coin{x=1}{x=2};coin{x=x+1}{}}");
+        due("coins", drawn.run(0, 0, 12345, 9, 4), 2);
+        drawn.price(0, 2);
+        row("quarters", to -> drawn.leads(0, 0, to), 0, 1, 2, 1);
         sentence = "run: 3 the STATE then (as it ENDED by out: NONE)";
         CoinLoops e = withLoop("x 2;while x<2{if x=1{out}{};x=x+1}");
         runIs(e, 0, 0, 0, 1, 0, 1, 0, 1, 0);
@@ -1365,6 +1459,8 @@ public final class EdgeTests {
         due("by whatever is picked, TOO MANY PLANS or not", c.most(6), 10);
         c.bind(0, 1);
         due("BOUND", c.most(6), 3);
+        due("by the second BODY", withLoop("x 9;while 0=0{pick{}{x=x+1}}").most(6), 10);
+        due("by the last of eight", withLoop("x 9;while 0=0{pick{}{pick{}{pick{}{x=x+1}}}}").most(6), 10);
     }
 
     private static void mostWithNoneIn() {
