@@ -967,6 +967,7 @@ public final class EdgeTests {
         sentence = "plan: NONE: it is OUT there";
         due("OUT there", c.plan(0, true, 2), -1);
         due("from what is OUT the first PLAN", c.plan(2, true, 1), 0);
+        due("one CHOICE there", withLoop("x 1;while 0=0{if x=0{pick{}{out}}{out}}").plan(0, true, 1), 0);
         due("from what is OUT, OUT there", c.plan(2, false, 2), -1);
     }
 
@@ -993,6 +994,8 @@ public final class EdgeTests {
         row("one after another", s -> g.paid(s, false, 0), 2, 1, 0);
         CoinLoops h = withLoop("x 2;while 0=0{if x=0{coin{x=1}{x=2}}{if x=1{pay 1}{}}}");
         row("two traps, one that pays", s -> h.paid(s, true, 0), -2, -2, 0);
+        CoinLoops i = withLoop("x 3;while 0=0{if x=1{x=0}{if x=0{x=3}{if x=3{pay 1;x=3}{out}}}}");
+        row("come to by way of 0", s -> i.paid(s, true, 0), -2, -2, 0, -2);
         sentence = "Of a STATE that is OUT: 0 PAID, ODDS 1";
         fraction("0 PAID", part -> e.paid(2, false, part), 0, 1);
         fraction("0 PAID", part -> e.paid(2, true, part), 0, 1);
@@ -1196,6 +1199,10 @@ public final class EdgeTests {
         c.bind(2, 0);
         due("2: that is left out", refutes(c, "9", 2), -1);
         due("4: that is left out", refutes(c, "9", 4), -1);
+        c = withLoop("x 1;while x=1{pick{x=0}{pay 1;coin{x=0}{}}}");
+        due("4: by each of two", refutes(c, "1", 4), -1);
+        due("2: just 1 more by each of two", refutes(c, "2", 2), -1);
+        due("2: by the first alone", refutes(c, "1", 2), 1);
     }
 
     private static void refutedInTheLastState() {
@@ -1257,6 +1264,9 @@ public final class EdgeTests {
         due("none is not refused", c.status(1), 0);
         due("price() makes one", c.price(0, 0), 1);
         bestIs(c, 0, 0, 1, 0, 1, 0, 1, 0, 1);
+        due("price() takes it again", c.price(0, 1), 0);
+        due("none then", c.best(0, 0), NOT_TOLD);
+        due("none then", c.best(1, 7), NOT_TOLD);
         sentence = "independent of each other";
         due("three in a row of STATES", withLoop("x 2;y 2;while y=1{pay 1;out}").best(4, 0), NOT_TOLD);
     }
